@@ -962,29 +962,28 @@ public final class ScopeGraph {
             levelFound = 0;
             scopeFound = scope;
             if (program.kinds[scope] == LONG) {
-                return local(names, program.ownedBy(before), 0, blocked);
+                return local(names, program.ownedBy(before), blocked);
             }
-            long below = 0;
             for (int level = 0; level < MOST_SCOPES && scope >= 0; level++) {
-                long found = local(names, 1L << scope, below, blocked);
+                long found = local(names, 1L << scope, blocked);
                 if (found != 0) {
                     levelFound = level;
                     scopeFound = scope;
                     return found;
                 }
-                below |= 1L << scope;
                 scope = program.parents[scope];
             }
             return 0;
         }
 
         /**
-         * What is LOCAL in some scopes. S may grow by all scopes that were looked into, not only
-         * by those on the way to one: to come to a scope once more finds nothing new.
+         * What is LOCAL in some scopes. S may have all scopes that were looked into, not only those
+         * on the way to one: to come to a scope once more finds nothing new. Nor need it have the
+         * scopes below: had they anything to find, what is above would not be asked for.
          */
-        private long local(long names, long scopes, long below, int blocked) {
-            long passed = below;
-            long waiting = scopes & ~passed;
+        private long local(long names, long scopes, int blocked) {
+            long passed = 0;
+            long waiting = scopes;
             long found = 0;
             for (int n = 0; n < MOST_SCOPES && names != 0 && waiting != 0; n++) {
                 int scope = lowest(waiting);

@@ -13,6 +13,8 @@ public final class GraphTest {
         manyMeant();
         nearAndUp();
         manyImportsInRings();
+        likeNames();
+        readAgain();
         outsideArguments();
         Check.finish(400);
     }
@@ -202,6 +204,9 @@ public final class GraphTest {
         reference(graph, 5, 5, 74, -1, 1, 3, 1);
         reference(graph, 6, 5, 76, -1, 1, 4, 1);
         reference(graph, 7, 5, 78, -1, 1, 4, 1);
+        ScopeGraph within = Check.reading("def x=0;module A{def x=1;}def y=fun p{A.x};");
+        reference(within, 0, 2, 38, 3, 1, 1, 1);
+        reference(within, 1, 3, 40, -1, 1, 0, 0);
         ScopeGraph deep = Check.reading("def a=" + "let x=1 in{".repeat(20) + "a b" + "}".repeat(20) + ";");
         reference(deep, 0, 20, 226, -1, 1, 20, 1);
         reference(deep, 1, 20, 228, -1, 0, -1, -1);
@@ -222,6 +227,47 @@ public final class GraphTest {
         ScopeGraph six = Check.reading("module A{import A;}".repeat(6).replace("A;", "A.A.A.A;") + "def y=A.A.A;");
         Check.due("six modules of one name", six.reference(0, 3), 6);
         Check.due("references that mean nothing", six.count(4) > 0 ? 1 : 0, 1);
+    }
+
+    /** Names are the same only if all their bytes are. */
+    private static void likeNames() {
+        String[] names = {"a", "aa", "aaaaaa", "aaaaaaa", "aaaaaab", "aaaaaaaaaaaa", "aaaaaaaaaaab", "aaaaaabaaaaa", "a_", "A", "a0", "a1"};
+        StringBuilder text = new StringBuilder();
+        for (String name : names) {
+            text.append("def ").append(name).append("=1;");
+        }
+        text.append("def all=");
+        for (String name : names) {
+            text.append(name).append(' ');
+        }
+        ScopeGraph graph = Check.reading(text.append("aaaaaaaaaaac aaa;").toString());
+        for (int k = 0; k < names.length; k++) {
+            Check.due("the meaning of " + names[k], meaning(graph, k), 100 + k);
+        }
+        Check.due("a name of twelve bytes that nobody has", meaning(graph, names.length), 1);
+        Check.due("a name of three bytes that nobody has", meaning(graph, names.length + 1), 1);
+    }
+
+    /** What a scope of one number had in former texts is not in the next one's. */
+    private static void readAgain() {
+        ScopeGraph graph = new ScopeGraph();
+        for (int n = 0; n < 3; n++) {
+            Check.type(graph, "module A{def x=1;} module B{import A; def y=x;}");
+            graph.read();
+            Check.due("x by the import", meaning(graph, 1), 101);
+        }
+        for (int n = 0; n < 3; n++) {
+            Check.type(graph, "module A{def x=1;} module B{def y=x;} module C{import A; def y=x;}");
+            graph.read();
+            Check.due("x without an import", meaning(graph, 0), 1);
+            Check.due("x by the import elsewhere", meaning(graph, 2), 101);
+        }
+        for (int n = 0; n < 3; n++) {
+            Check.type(graph, "def A=1; def B=A.x B;");
+            graph.read();
+            Check.due("A is no module now", meaning(graph, 1), 1);
+            Check.due("nor is B", graph.declaration(1, 2), ScopeGraph.NONE);
+        }
     }
 
     private static void outsideArguments() {

@@ -70,7 +70,7 @@ public final class OracleTest {
 
     private static void renameSome(String what, ScopeGraph graph, Oracle first, Random random) {
         Oracle oracle = first;
-        String[] names = {"a", "b", "c", "A", "B", "longer", "_", "let", "1a", "a ", "", "abcdefghijkl", "abcdefghijklm"};
+        String[] names = {"a", "b", "c", "A", "B", "_a", "abcdefghijka", "longer", "_", "let", "1a", "a ", "", "abcdefghijkl", "abcdefghijklm"};
         for (int n = 0; n < 6 && !oracle.declarations.isEmpty(); n++) {
             int k = random.nextInt(oracle.declarations.size());
             String name = names[random.nextInt(names.length)];

@@ -7,6 +7,7 @@ final class RandomText {
     private final int names;
     private final int modules;
     private final boolean dense;
+    private final String prefix;
     private int left;
     private int imports;
 
@@ -15,6 +16,7 @@ final class RandomText {
         this.names = 1 + random.nextInt(4);
         this.modules = 1 + random.nextInt(3);
         this.dense = random.nextBoolean();
+        this.prefix = new String[] {"", "", "_", "abcde", "abcdefghijk"}[random.nextInt(5)];
         this.left = 3 + random.nextInt(random.nextInt(8) == 0 ? 120 : 30);
         this.imports = random.nextInt(7);
     }
@@ -27,8 +29,8 @@ final class RandomText {
     private void put(String piece) {
         if (dense) {
             int size = text.length();
-            boolean wordy = size > 0 && Character.isLetterOrDigit(text.charAt(size - 1))
-                    && Character.isLetterOrDigit(piece.charAt(0));
+            boolean wordy = size > 0 && Character.isJavaIdentifierPart(text.charAt(size - 1))
+                    && Character.isJavaIdentifierPart(piece.charAt(0));
             text.append(wordy ? " " : "").append(piece);
         } else {
             text.append(random.nextInt(9) == 0 ? "\n\t" : "").append(piece).append(' ');
@@ -36,11 +38,11 @@ final class RandomText {
     }
 
     private String name() {
-        return String.valueOf((char) ('a' + random.nextInt(names)));
+        return prefix + (char) ('a' + random.nextInt(names));
     }
 
     private String module() {
-        return String.valueOf((char) ('A' + random.nextInt(modules)));
+        return prefix + (char) ('A' + random.nextInt(modules));
     }
 
     private void decs(int depth) {

@@ -136,6 +136,25 @@ public final class TapeTest {
         Check.due("read() of '" + shown + "'", graph.read(), -1 - place);
         Check.due("fault() of '" + shown + "'", graph.fault(), code);
         Check.due("the text behind '" + shown + "'", graph.count(6), 0);
+        afterFault("behind '" + shown + "'", graph);
+    }
+
+    /** Nothing of a faulty text is left over in the next one. */
+    private static void afterFault(String what, ScopeGraph graph) {
+        Check.type(graph, "module M{def x=1;}import M;def y=fun z{x};");
+        Check.due(what + ": read()", graph.read(), 3);
+        int[] counts = {3, 4, 2, 1, 0, 0, 42, 0};
+        for (int k = 0; k < counts.length; k++) {
+            Check.due(what + ": count(" + k + ")", graph.count(k), counts[k]);
+        }
+        int[][] scopes = {{-1, 0, 2, 1, 1}, {0, 1, 1, 0, 0}, {0, 2, 1, 1, 0}};
+        for (int k = 0; k < scopes.length; k++) {
+            for (int i = 0; i < scopes[k].length; i++) {
+                Check.due(what + ": scope(" + k + ", " + i + ")", graph.scope(k, i), scopes[k][i]);
+            }
+        }
+        Check.due(what + ": M", graph.meant(0, 0), 0);
+        Check.due(what + ": x", graph.meant(1, 0), 1);
     }
 
     private static void good(String text, int scopes, int declarations, int references) {
