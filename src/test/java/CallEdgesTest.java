@@ -24,6 +24,7 @@ public final class CallEdgesTest {
 
     private static void readings() {
         Check.sentence("4: The tape becomes the text: how many scopes it has", CallEdgesTest::scopesOfTexts);
+        Check.sentence("4: The tape becomes the text, with nothing of the one before", CallEdgesTest::nothingLeft);
         Check.sentence("4: and is empty then (with a fault, too)", CallEdgesTest::emptyThen);
         Check.sentence("4: -1 less the place of its fault", CallEdgesTest::placeOfFault);
         Check.sentence("4: then the text before stays", CallEdgesTest::textBeforeStays);
@@ -195,6 +196,21 @@ public final class CallEdgesTest {
         Check.due("a text of one again", read(graph, "def a=1;"), 1);
         Check.due("the empty text again", graph.read(), 1);
         Check.due("bytes of the text", graph.count(6), 0);
+    }
+
+    private static void nothingLeft() {
+        ScopeGraph graph = Check.reading("module A{import A;}def a=1;def a=a a a a;def b=fun c{a.b.c};");
+        Check.due("renaming in the longer text", Check.renamed(graph, 1, "d"), 7);
+        read(graph, "def a=b;def c=1;");
+        Check.due("all answers", Check.state(graph), Check.state(Check.reading("def a=b;def c=1;")));
+        Check.due("renaming in the shorter text", Check.renamed(graph, 0, "d"), 1);
+        Check.due("all answers", Check.state(graph), Check.state(Check.reading("def d=b;def c=1;")));
+        Check.due("friends(0, 1)", graph.friends(0, 1) ? 1 : 0, 0);
+        read(graph, "module A{}module B{def a=c;}import A;");
+        Check.due("all answers", Check.state(graph), Check.state(Check.reading("module A{}module B{def a=c;}import A;")));
+        ScopeGraph other = Check.reading("def a=a a a;");
+        read(other, "def a=a;");
+        Check.due("renaming in the shorter text alone", Check.renamed(other, 0, "d"), 2);
     }
 
     private static void emptyThen() {

@@ -175,8 +175,9 @@ final class Check {
     }
 
     static void textIs(String what, ScopeGraph graph, String want) {
-        due(what + ": bytes of the text", graph.count(6), want.length());
-        for (int i = 0; i < want.length() && i < graph.count(6); i++) {
+        int size = graph.count(6);
+        due(what + ": bytes of the text", size, want.length());
+        for (int i = 0; i < want.length() && i < size; i++) {
             due(what + ": letter(" + i + ")", graph.letter(i), want.charAt(i));
         }
     }

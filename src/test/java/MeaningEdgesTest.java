@@ -219,11 +219,15 @@ public final class MeaningEdgesTest {
         ScopeGraph same = Check.reading("module A{def x=1;}module A{def x=2;}module C{import A;def c=x;}");
         means(same, 0, "0 2");
         means(same, 1, "1 3");
-        ScopeGraph noScope = Check.reading("def A=1;def x=1;module C{import A;import Z;def c=x y;}");
-        means(noScope, 0, "0");
-        means(noScope, 1, "");
-        means(noScope, 2, "1");
-        means(noScope, 3, "");
+        ScopeGraph three = Check.reading("def z=0;module A{def x=1;}module A{def x=2;}def A=3;module A{def x=4;}import A;def c=x;");
+        means(three, 0, "1 3 5 6");
+        means(three, 1, "2 4 7");
+        ScopeGraph noScope = Check.reading("def A=1;def x=1;module C{import A;import Z;def c=x y;}def d=A.x;");
+        String[] due = {"0", "", "1", "", "0", ""};
+        for (int k = 0; k < due.length; k++) {
+            means(noScope, k, due[k]);
+        }
+        Check.due("x is found above, not behind the import", noScope.reference(2, 4), 1);
         ScopeGraph far = Check.reading("module A{def x=1;}module B{import A;}module C{import B;}module D{import C;}"
                 + "module E{import D;}module F{import E;}module G{import F;def g=x;}");
         means(far, 6, "1");

@@ -1,13 +1,17 @@
+import java.util.Arrays;
 import java.util.Random;
 import java.util.Set;
 
-/** Random texts, right and wrong ones, and random renamings of them, against the oracle. */
+/**
+ * Random texts, right and wrong ones, and random renamings of them, against the oracle. It asks an
+ * object more than the 512 calls that the document speaks of: this class answers on and on.
+ */
 public final class OracleTest {
     private static final int TEXTS = 6000;
     private static final long MOST_STEPS = 60_000;
 
     private static int slow = 0;
-    private static int faults = 0;
+    private static final int[] faults = new int[6];
     private static int refused = 0;
     private static int renamed = 0;
     private static int many = 0;
@@ -17,10 +21,13 @@ public final class OracleTest {
         for (int seed = 0; seed < TEXTS; seed++) {
             one(seed);
         }
-        System.out.println(TEXTS + " texts: " + faults + " faults, " + slow + " left out as too slow, "
+        System.out.println(TEXTS + " texts: faults 1 to 5 " + Arrays.toString(faults) + ", " + slow + " left out as too slow, "
                 + renamed + " renamed, " + refused + " refused, " + many
                 + " references that mean more than one, " + byImport + " that mean by imports");
-        Check.due("enough of each", Math.min(Math.min(faults, renamed), Math.min(refused, many)) > 300 ? 1 : 0, 1);
+        Check.due("enough of each", Math.min(renamed, Math.min(refused, many)) > 300 ? 1 : 0, 1);
+        for (int code = 1; code < faults.length; code++) {
+            Check.due("enough of fault " + code, faults[code] > 50 ? 1 : 0, 1);
+        }
         Check.due("few left out", slow * 5 < TEXTS ? 1 : 0, 1);
         Check.finish(100_000);
     }
@@ -28,6 +35,9 @@ public final class OracleTest {
     private static void one(int seed) {
         Random random = new Random(seed);
         String text = new RandomText(random).make();
+        if (seed % 4 == 0) {
+            text = crowded(text, random);
+        }
         if (random.nextInt(5) == 0) {
             text = spoiled(text, random);
         }
@@ -45,12 +55,25 @@ public final class OracleTest {
             compare(what, graph, oracle);
             renameSome(what, graph, oracle, random);
         } catch (Oracle.Fault fault) {
-            faults++;
+            faults[fault.code]++;
             Check.due(what + ": read()", answer, -1 - fault.place);
             Check.due(what + ": fault()", graph.fault(), fault.code);
             Check.due(what + ": the text stays", graph.count(6), 0);
         } catch (Oracle.TooSlow e) {
             slow++;
+        }
+    }
+
+    /** Leaves the text room for few declarations, references, scopes or brackets. */
+    private static String crowded(String text, Random random) {
+        int less = random.nextInt(9);
+        switch (random.nextInt(5)) {
+            case 0: return "def q=1;".repeat(60 - less) + text;
+            case 1: return "def q=" + "q ".repeat(100 - less) + ";" + text;
+            case 2: return "def q=q" + ".q".repeat(63 - less) + ";" + text;
+            case 3: return "module q{".repeat(20 - less) + text + "}".repeat(20 - less);
+            default: return "def q=1;".repeat(59 - random.nextInt(9)) + "def q=" + "q ".repeat(36 - random.nextInt(9)) + "q"
+                    + ".q".repeat(63 - less) + ";" + text;
         }
     }
 
